@@ -590,9 +590,9 @@ public final class SwitchDesk {
         int looked = states[at + STATE_FIELD];
         int cases = looked == NONE ? 0 : states[at + STATE_CASES];
         for (int c = 0; c < cases; c++) {
-            int record = at + FIRST_CASE + c * CASE_SIZE;
-            if (alike(fieldValue[looked], states[record], states[record + 1])) {
-                return states[record + 2];
+            int one = at + FIRST_CASE + c * CASE_SIZE;
+            if (alike(fieldValue[looked], states[one], states[one + 1])) {
+                return states[one + 2];
             }
         }
         return states[at + STATE_DEFAULT];

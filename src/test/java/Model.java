@@ -178,6 +178,10 @@ final class Model {
         return steps.size() - 1;
     }
 
+    int stepCount() {
+        return steps.size();
+    }
+
     int order(int h) {
         if (!in(h, 0, 5) || order.size() == 6) return -1;
         order.add(h);

@@ -144,7 +144,7 @@ public final class ModelTest {
             }
             case 11: {
                 int what = pick(0, 5), a = pick(0, 27), b = word(), g = random.nextInt(17);
-                if (random.nextInt(4) > 0) g = Math.min(16, Math.max(0, desk.last(8)) % 16 + 1 + random.nextInt(4));
+                if (random.nextInt(4) > 0) g = Math.min(16, model.stepCount() + 1 + random.nextInt(3));
                 if (what == 0) a = pick(0, 3);
                 if (what == 1) a = pick(0, 7);
                 if (what == 3) a = someHeader();
