@@ -844,10 +844,11 @@ public final class SwitchDesk {
     private void takeFirst(int queue) {
         int first = queue * QUEUE_LENGTH;
         copyPacket(first, GOT);
-        for (int i = 1; i < queueCount[queue]; i++) {
-            copyPacket(first + i, first + i - 1);
+        int left = queueCount[queue] - 1;
+        for (int i = 0; i < left; i++) {
+            copyPacket(first + i + 1, first + i);
         }
-        queueCount[queue]--;
+        queueCount[queue] = left;
     }
 
     private void passTurn(int p) {

@@ -62,14 +62,14 @@ public final class PacketTest {
         d.width(0, 16);
         d.width(1, 15);
         d.operation(0, 6, 0, 0);
-        d.operation(0, 0, 0, 0xABCD);
+        d.operation(0, 0, 0, 0x2BCD);
         d.operation(0, 0, 1, 0x7001);
         d.step(1, 0, 0, 0);
         d.order(0);
         Desks.type(d, 1, 2, 3, 4, 5, 6, 7, 8, 9, 10, 11, 12);
         check.due("127 bits are 16 bytes", d.send(0), SwitchDesk.OUT);
         check.due("bytes", d.out(-1), 16);
-        check.due("first", d.out(0), 0xAB);
+        check.due("first", d.out(0), 0x2B);
         check.due("second", d.out(1), 0xCD);
         check.due("third", d.out(2), 0xE0);
         check.due("fourth", d.out(3), 0x02);
@@ -77,16 +77,29 @@ public final class PacketTest {
         d.width(1, 16);
         check.due("128 bits", d.send(0), SwitchDesk.OUT);
         check.due("last", d.out(15), 12);
+        d.fetch(0);
         d.width(4, 1);
         d.operation(0, 6, 1, 0);
+        d.operation(0, 0, 4, 1);
         d.order(1);
+        Desks.type(d, 1, 2, 3, 4, 5, 6, 7, 8, 9, 10, 11, 255);
         check.due("129 bits are too many", d.send(0), SwitchDesk.DROPPED);
         check.due("nothing came out", d.out(-1), -1);
         check.due("dropped", d.count(1), 1);
+        check.due("the fetched one stays", d.got(0), 0x2B);
         d.clear(3, 0);
         for (int i = 0; i < 4; i++) d.order(0);
         check.due("five times 32 bits and one", d.send(0), SwitchDesk.DROPPED);
-        check.due("nobody got it", d.port(0, 0), 2);
+        check.due("nobody got it", d.port(0, 0), 1);
+        for (int w = 1; w < 17; w++) {
+            d = new SwitchDesk();
+            d.width(0, w);
+            d.operation(0, 6, 0, 0);
+            d.step(1, 0, 0, 0);
+            d.order(0);
+            check.due("a header alone", d.send(0), SwitchDesk.OUT);
+            check.due("bytes for bits: " + w, d.out(-1), w > 8 ? 2 : 1);
+        }
     }
 
     private static void sendAgain() {
@@ -237,6 +250,15 @@ public final class PacketTest {
         d.step(1, 1, 0, 0);
         d.send(0);
         check.due("its fields count all the same", d.field(26), 65535 - 0x1800);
+        d.clear(1, 0);
+        d.operation(3, 0, 4, 8);
+        d.operation(3, 10, 26, 0);
+        d.operation(3, 10, 25, 5);
+        d.width(4, 16);
+        d.step(1, 3, 0, 0);
+        d.send(1234);
+        check.due("without what stands behind header 0", d.field(26), 65535);
+        check.due("without what stands behind header 5", d.field(25), 65535);
     }
 
     private static void headers() {
@@ -270,6 +292,14 @@ public final class PacketTest {
         check.due("one that was not", d.last(2), 0);
         check.due("one that is now", d.last(5), 1);
         check.due("a field of one that is not valid", d.field(12), 70);
+        d.clear(0, 0);
+        d.operation(0, 6, 2, 0);
+        d.send(0);
+        check.due("the header behind stays", d.field(12), 65);
+        d.clear(0, 0);
+        d.operation(0, 6, 5, 0);
+        d.send(9);
+        check.due("the metadata behind stay", d.field(24), 9);
     }
 
     private static void registersInActions() {

@@ -17,6 +17,7 @@ public final class PortTest {
         got();
         port();
         queuesAreFull();
+        allQueuesFull();
         whichPort();
         tokens();
         check.finish();
@@ -278,6 +279,26 @@ public final class PortTest {
             d.fetch(1);
             check.due("in order", d.got(0), b);
         }
+    }
+
+    private static void allQueuesFull() {
+        check.part("25 port, all queues full");
+        SwitchDesk d = Desks.routing();
+        for (int i = 0; i < 48; i++) Desks.route(d, i / 12, i % 12 / 4, 100 + i, i);
+        Desks.type(d, 9, 9, 9);
+        for (int p = 0; p < 4; p++) {
+            for (int q = 0; q < 3; q++) check.due("four", d.port(p, q), 4);
+            int sum = 0;
+            for (int i = 0; i < 12; i++) {
+                check.due("two bytes", d.fetch(p), 2);
+                check.due("first and second", d.got(0) - d.got(1), 100);
+                sum += d.got(1);
+            }
+            check.due("all of them", sum, 12 * 12 * p + 66);
+            check.due("no more", d.fetch(p), -1);
+        }
+        d.send(0);
+        check.due("what is typed stayed", d.out(-1), 3);
     }
 
     private static void whichPort() {

@@ -90,6 +90,9 @@ public final class SettingTest {
             for (int p = 0; p < 4; p++) check.due("nobody has it", d.port(p, 0), 0);
         }
         check.due("a meter has no tokens", afterOneByte(14, 24, 2), 1);
+        d = new SwitchDesk();
+        check.due("a case of a new state", d.branch(0, 0, 0, 9), 1);
+        check.due("which looks at nothing", d.send(0), SwitchDesk.OUT);
     }
 
     private static int afterOneByte(int what, int f, int x) {
@@ -185,6 +188,12 @@ public final class SettingTest {
         check.due("not valid", d.last(0), 0);
         check.due("all fields 0", d.field(0), 0);
         check.due("one state begun", d.last(7), 1);
+        d.width(3, 0);
+        d.width(2, 5);
+        d.state(0, 0, -1, 8);
+        check.due("nine bits of eight", d.send(0), SwitchDesk.REJECTED);
+        d.width(2, 4);
+        check.due("eight bits of eight", d.send(0), SwitchDesk.OUT);
     }
 
     private static void parserLimits() {
@@ -242,6 +251,21 @@ public final class SettingTest {
         check.due("goes to state 7", d.send(5), SwitchDesk.OUT);
         check.due("which takes header 0 out", d.field(0), 0x7F);
         for (int s = 1; s < 8; s++) check.due("each state has its own", d.branch(s, 0, 0, 0), 1);
+        allCases();
+    }
+
+    /** State s goes to state s + 1 by its first, second or third CASE, as port 1, 2 or 3 tells. */
+    private static void allCases() {
+        check.part("4 branch, all cases of all states");
+        SwitchDesk d = new SwitchDesk();
+        for (int s = 7; s >= 0; s--) {
+            d.state(s, -1, 24, 9);
+            for (int c = 1; c < 4; c++) check.due("case", d.branch(s, c, 65535, s + 1), c);
+        }
+        for (int p = 0; p < 5; p++) {
+            check.due("port " + p, d.send(p), p == 0 || p == 4 ? SwitchDesk.REJECTED : SwitchDesk.OUT);
+            check.due("states begun", d.last(7), p == 0 || p == 4 ? 1 : 8);
+        }
     }
 
     private static void operation() {
@@ -340,6 +364,12 @@ public final class SettingTest {
         check.due("the default's first", d.field(26), 65535);
         check.due("the default's second", d.field(27), 4);
         check.due("default twice", d.taken(1, -1), 2);
+        d.entry(1, 5, 0, 0, 0, 0);
+        d.match(1, 5, 0, 8, 0);
+        d.entry(1, 4, 0, 0, 0, 0);
+        d.entry(1, 6, 0, 0, 0, 0);
+        d.send(8);
+        check.due("entries beside it stay as they are", d.taken(1, 5), 1);
         newMasksAreZero();
         choosing();
     }
@@ -438,6 +468,7 @@ public final class SettingTest {
         d.step(0, 0, 0, 1);
         d.entry(0, 0, 0, 0, 0, 0);
         for (int n : Desks.wrongFor(0, 16)) check.no("n", d.match(0, 0, 0, 0, n));
+        for (int n = 0; n < 17; n++) check.yes("n", d.match(0, 0, 0, 0, n));
         check.yes("the highest three of six bits", d.match(0, 0, 0, 0xFF00 | 0x2C, 3));
         Desks.type(d, 0x2B << 2);
         d.send(0);
