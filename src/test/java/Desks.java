@@ -43,13 +43,25 @@ final class Desks {
         return desk.send(0);
     }
 
-    /** The number that a field of a header gets from one action of one OPERATION. */
-    static int after(SwitchDesk desk, int what, int f, int x) {
+    /** An OPERATION, for act. */
+    static int[] op(int what, int f, int x) {
+        return new int[] {what, f, x};
+    }
+
+    /** Sends the packet to port 0, where one action of these OPERATIONS is the only step. */
+    static int act(SwitchDesk desk, int[]... operations) {
         desk.clear(0, 7);
         desk.clear(1, 0);
-        desk.operation(7, what, f, x);
+        for (int[] one : operations) {
+            desk.operation(7, one[0], one[1], one[2]);
+        }
         desk.step(1, 7, 0, 0);
-        desk.send(0);
+        return desk.send(0);
+    }
+
+    /** The number that a field of a header gets from one action of one OPERATION. */
+    static int after(SwitchDesk desk, int what, int f, int x) {
+        act(desk, op(what, f, x));
         return desk.field(f);
     }
 }
