@@ -11,6 +11,7 @@ public final class ActionEdgesTest {
         numberOfSixteenBits();
         parameterZeroOrOne();
         fromFirstFieldToLast();
+        exclusiveOr();
         becomesValidIfItWasNot();
         notValidAnyMore();
         dropWhereverItStands();
@@ -112,6 +113,19 @@ public final class ActionEdgesTest {
         }
     }
 
+    private static void exclusiveOr() {
+        check.part("OPERATION 5: f = f XOR x");
+        int[][] rows = {{0, 0}, {0, 65535}, {65535, 0}, {65535, 65535}, {0xA5C3, 0x0FF0}, {32768, 1}};
+        for (int[] row : rows) {
+            SwitchDesk d = new SwitchDesk();
+            Desks.act(d, Desks.op(0, 26, row[0]), Desks.op(0, 27, row[1]), Desks.op(5, 26, 27));
+            check.due(row[0] + " XOR " + row[1], d.field(26), row[0] ^ row[1]);
+            check.due("x stays", d.field(27), row[1]);
+            Desks.act(d, Desks.op(0, 26, row[0]), Desks.op(5, 26, 26));
+            check.due(row[0] + " XOR itself", d.field(26), 0);
+        }
+    }
+
     private static void becomesValidIfItWasNot() {
         check.part("OPERATION 6: header f becomes VALID, if it was not, with all its fields 0");
         for (int h = 0; h < 6; h++) {
@@ -125,11 +139,13 @@ public final class ActionEdgesTest {
             Desks.act(d, Desks.op(7, h, 0), Desks.op(6, h, 0));
             check.due("it was not: VALID", d.last(h), 1);
             for (int i = 0; i < 4; i++) check.due("it was not: field " + i, d.field(4 * h + i), 0);
-            int other = (h + 1) % 6;
-            Desks.act(d, Desks.op(6, other, 0));
-            check.due("another", d.last(other), 1);
-            check.due("its last field beside it", d.field(4 * h + 3), 4);
-            check.due("its first field beside it", d.field(4 * h), 1);
+            for (int other = 0; other < 6; other++) {
+                if (other == h) continue;
+                Desks.act(d, Desks.op(0, 24, 9), Desks.op(6, other, 0));
+                check.due("another", d.last(other), 1);
+                for (int i = 0; i < 4; i++) check.due("field " + i + " beside it", d.field(4 * h + i), i + 1);
+                check.due("METADATA beside it", d.field(24), 9);
+            }
         }
         checkHeaderOf(6);
     }
@@ -268,11 +284,11 @@ public final class ActionEdgesTest {
         d.operation(0, 9, 0, 0);
         d.order(0);
         d.step(1, 0, 0, 0);
-        d.set(0, 2, 0, 21);
+        d.set(0, 2, 0, 35);
         Desks.type(d, 1, 2, 3);
         check.due("four times", d.send(0), SwitchDesk.DROPPED);
-        check.due("of 3, 7, 11 and 15 bytes the last has too few", d.field(27), 1);
-        check.due("3, 7 and 11 were taken", d.tokens(2), 0);
+        check.due("after 3, 7 and 11 bytes there is one too few for 15", d.field(27), 1);
+        check.due("3, 7 and 11 were taken", d.tokens(2), 14);
         d.set(0, 2, 0, 36);
         d.send(0);
         check.due("just enough", d.field(27), 0);

@@ -24,9 +24,10 @@ final class Busy {
         d.type(0xEE);
         d.type(0x77);
         d.send(0);
-        d.send(1);
+        for (int i = 0; i < 4; i++) d.send(1);
         d.tick(2);
         d.fetch(EMPTY_PORT);
+        d.send(3);
         d.send(4);
         return d;
     }
@@ -69,7 +70,7 @@ final class Busy {
             {{10, 11, 2}, {5, 7, 4}},
             {{6, 5, 0}, {7, 4, 0}},
             {{1, 27, 0}, {2, 15, 24}, {1, 13, 1}},
-            {{4, 19, 15}, {1, 27, 1}, {11, 23, 3}}};
+            {{4, 19, 15}, {1, 27, 0}, {11, 23, 3}}};
         for (int a = 0; a < 8; a++) {
             for (int[] one : all[a]) d.operation(a, one[0], one[1], one[2]);
         }

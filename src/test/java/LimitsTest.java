@@ -283,6 +283,11 @@ public final class LimitsTest {
             int e = i;
             if (e != 9) unchanged("entry " + e + " is not there", d -> bit(d.match(3, e, 0, 7, 7)), NO);
         }
+        for (int i = 0; i < 4; i++) {
+            int t = i;
+            unchanged("the DEFAULT of " + t + " has no keys", d -> bit(d.match(t, -1, 0, 7, 7)), NO);
+            unchanged("entry 12 of " + t, d -> bit(d.match(t, 12, 0, 7, 7)), NO);
+        }
         number("k of two", 0, 1, NO, (d, v) -> bit(d.match(0, 0, v, 7, 7)));
         number("k of two", 0, 1, NO, (d, v) -> bit(d.match(2, 3, v, 7, 7)));
         number("k of one", 0, 0, NO, (d, v) -> bit(d.match(1, 4, v, 7, 7)));
@@ -313,9 +318,14 @@ public final class LimitsTest {
             if (in(0, v, 11)) d.entry(3, v, 0, 0, 0, 0);
             return bit(d.erase(3, v));
         });
-        for (int i = -1; i < 12; i++) {
+        for (int i = 0; i < 12; i++) {
             int e = i;
             if (e != 9) unchanged("entry " + e + " is not there", d -> bit(d.erase(3, e)), NO);
+        }
+        for (int i = 0; i < 4; i++) {
+            int t = i;
+            unchanged("the DEFAULT of " + t + " is always there", d -> bit(d.erase(t, -1)), NO);
+            unchanged("entry 12 of " + t, d -> bit(d.erase(t, 12)), NO);
         }
         for (int t = 0; t < 4; t++) {
             SwitchDesk d = new SwitchDesk();
@@ -599,7 +609,7 @@ public final class LimitsTest {
             int[] packet = new int[bytes];
             for (int k = 0; k < bytes; k++) packet[k] = 100 + k;
             Desks.route(d, 3, 0, packet);
-            check.due("not FETCHED yet", d.got(15), 16);
+            for (int k = 0; k < 16; k++) check.due("not FETCHED yet, byte " + k, d.got(k), 1 + k);
             d.fetch(3);
             for (int k = 0; k < bytes; k++) check.due("byte " + k, d.got(k), 100 + k);
             check.due("none before", d.got(-1), -1);

@@ -233,20 +233,24 @@ public final class PacketEdgesTest {
         check.part("A PACKET: more than 16 bytes, as many as there can be");
         SwitchDesk d = new SwitchDesk();
         for (int f = 0; f < 4; f++) d.width(f, 16);
-        for (int i = 0; i < 16; i++) d.type(255);
-        Desks.act(d, Desks.op(6, 0, 0));
-        check.due("an empty ORDER: 16 bytes", d.out(-1), 16);
+        for (int i = 0; i < 16; i++) d.type(i);
+        d.send(0);
         d.fetch(0);
+        Desks.type(d, 255, 255, 255, 255, 255, 255, 255, 255, 255, 255, 255, 255, 255, 255, 255, 255);
         for (int i = 0; i < 6; i++) d.order(0);
-        check.due("64 bytes", d.send(0), SwitchDesk.DROPPED);
-        check.due("what was FETCHED stays", d.got(15), 255);
+        int result = Desks.act(d, Desks.op(6, 0, 0), Desks.op(0, 0, 65535), Desks.op(0, 3, 65535));
+        check.due("64 bytes", result, SwitchDesk.DROPPED);
+        for (int k = 0; k < 16; k++) check.due("what was FETCHED stays, byte " + k, d.got(k), k);
         check.due("what is typed stays", d.clear(3, 0), 16);
         check.due("48 bytes", d.send(0), SwitchDesk.DROPPED);
+        for (int k = 0; k < 16; k++) check.due("what was FETCHED stays, byte " + k, d.got(k), k);
         d.clear(2, 0);
         d.order(0);
         d.order(0);
         check.due("16 bytes", d.send(0), SwitchDesk.OUT);
-        check.due("of zeros", d.out(15), 0);
+        for (int k = 0; k < 16; k++) check.due("byte " + k, d.out(k), k % 8 < 2 || k % 8 > 5 ? 255 : 0);
+        d.order(0);
+        check.due("24 bytes", d.send(0), SwitchDesk.DROPPED);
     }
 
     private static void metadataStay() {

@@ -29,6 +29,7 @@ public final class PromiseEdgesTest {
         creditStaysWhenQuantumIsSet();
         fieldsOfAHeaderStay();
         constants();
+        usedFor512Calls();
         check.finish();
     }
 
@@ -386,5 +387,30 @@ public final class PromiseEdgesTest {
         check.due("OUT", SwitchDesk.OUT, 0);
         check.due("DROPPED", SwitchDesk.DROPPED, 1);
         check.due("REJECTED", SwitchDesk.REJECTED, 2);
+    }
+
+    private static void usedFor512Calls() {
+        check.part("An object is used for at most 512 calls after it has been made");
+        int[] due = {510, 0, 510, 506, 0, 511000};
+        for (int last = 0; last < due.length; last++) {
+            SwitchDesk d = new SwitchDesk();
+            d.step(0, 0, 0, 16);
+            for (int i = 0; i < 510; i++) {
+                if (last < 5) d.send(0);
+                else d.tick(1000);
+            }
+            check.due("the 512th, " + last, lastCall(d, last), due[last]);
+        }
+    }
+
+    private static int lastCall(SwitchDesk d, int which) {
+        switch (which) {
+            case 0: return d.count(0);
+            case 1: return d.send(65535);
+            case 2: return d.taken(0, -1);
+            case 3: return d.port(0, 6);
+            case 4: return d.fetch(0);
+            default: return d.tick(1000);
+        }
     }
 }
